@@ -702,13 +702,12 @@ public final class TramPence {
 
     private static final class Tape {
         static final int LIMIT = 200;
-        static final int NO_TOKEN = 0, AT_END = 1, NUMBER = 2, SEMICOLON = 3;
-        static final int FARE = 4, WORK = 5, CHANGE = 6;
+        static final int NO_TOKEN = 0, AT_END = 1, NAME = 2, NUMBER = 3, SEMICOLON = 4;
         private static final int FIGURES = 4;
 
         private final byte[] bytes = new byte[LIMIT];
         int length;
-        /** Where the latest token begins, and what it comes to, if it is a number. */
+        /** Where the latest token begins; the law that it names, or the number that it is. */
         int start;
         int value;
         private int place;
@@ -751,12 +750,15 @@ public final class TramPence {
                 place++;
             }
             if (isSpelled("fare")) {
-                return FARE;
+                value = Laws.FARE;
+                return NAME;
             }
             if (isSpelled("work")) {
-                return WORK;
+                value = Laws.WORK;
+                return NAME;
             }
-            return isSpelled("change") ? CHANGE : NO_TOKEN;
+            value = Laws.CHANGE;
+            return isSpelled("change") ? NAME : NO_TOKEN;
         }
 
         private int readNumber() {
@@ -793,7 +795,10 @@ public final class TramPence {
     }
 
     private static final class Laws {
-        static final int FARES = 9, WORKS = 4;
+        static final int FARE = 0, WORK = 1, CHANGE = 2;
+        /** How many numbers a law has, at most. */
+        static final int NUMBERS = 3;
+        private static final int FARES = 9, WORKS = 4;
         private static final int NO_CHANGE = -1;
 
         private final int[] sections = new int[FARES];
@@ -801,8 +806,8 @@ public final class TramPence {
         private final int[] fromHour = new int[WORKS];
         private final int[] toHour = new int[WORKS];
         private final int[] ofHundred = new int[WORKS];
-        int fares;
-        int works;
+        private int fares;
+        private int works;
         private int changeMinutes = NO_CHANGE;
 
         void clear() {
@@ -812,47 +817,47 @@ public final class TramPence {
         }
 
         int howMany() {
-            return fares + works + (hasChange() ? 1 : 0);
+            return fares + works + (changeMinutes == NO_CHANGE ? 0 : 1);
         }
 
-        boolean hasChange() {
-            return changeMinutes != NO_CHANGE;
+        boolean hasRoomFor(int law) {
+            switch (law) {
+                case FARE:
+                    return fares < FARES;
+                case WORK:
+                    return works < WORKS;
+                default:
+                    return changeMinutes == NO_CHANGE;
+            }
         }
 
-        void setChange(int minutes) {
-            changeMinutes = minutes;
-        }
-
-        boolean isChangeGood(int apart) {
-            return hasChange() && apart <= changeMinutes;
-        }
-
-        /** How far the latest fare goes; 0, which lies below all, if there is none. */
-        int latestSections() {
-            return fares == 0 ? 0 : sections[fares - 1];
-        }
-
-        int latestPence() {
-            return fares == 0 ? 0 : pence[fares - 1];
-        }
-
-        void addFare(int newSections, int newPence) {
-            if (fares >= FARES) {
+        void add(int law, int first, int second, int third) {
+            if (!hasRoomFor(law)) {
                 return;
             }
-            sections[fares] = newSections;
-            pence[fares] = newPence;
-            fares++;
+            switch (law) {
+                case FARE:
+                    sections[fares] = first;
+                    pence[fares] = second;
+                    fares++;
+                    break;
+                case WORK:
+                    fromHour[works] = first;
+                    toHour[works] = second;
+                    ofHundred[works] = third;
+                    works++;
+                    break;
+                default:
+                    changeMinutes = first;
+            }
         }
 
-        void addWork(int from, int to, int share) {
-            if (works >= WORKS) {
-                return;
+        /** The sections (0) or pence (1) of the latest fare; without one 0, which is below all. */
+        int latestFare(int which) {
+            if (fares == 0) {
+                return 0;
             }
-            fromHour[works] = from;
-            toHour[works] = to;
-            ofHundred[works] = share;
-            works++;
+            return which == 0 ? sections[fares - 1] : pence[fares - 1];
         }
 
         int priceFor(int n, int hour) {
@@ -872,29 +877,48 @@ public final class TramPence {
             }
             return 100;
         }
+
+        boolean isChangeGood(int apart) {
+            return changeMinutes != NO_CHANGE && apart <= changeMinutes;
+        }
     }
 
-    /** Laws are read into a draft, so that by a fault those that were told stay. */
+    /**
+     * Laws are read into a draft, so that by a fault those that were told stay. A token is judged
+     * before the next one is read, so the first fault met is at the token that was read last.
+     */
     private static final class LawBook {
         private static final int UNREADABLE = 1, MISPLACED = 2, OUT_OF_BOUNDS = 3;
         private static final int NOT_ABOVE = 4, TOO_MANY = 5;
+        private static final int NO_LAW = -1;
+
+        // By law: how many numbers it has; by law and number: its bounds.
+        private static final int[] HAS = {2, 3, 1};
+        private static final int[] LEAST_OF = {1, 1, 0, 0, 1, 0, 0, 0, 0};
+        private static final int[] MOST_OF = {9, 999, 0, 23, 24, 100, 120, 0, 0};
 
         final Tape tape = new Tape();
         Laws told = new Laws();
-        private Laws draft = new Laws();
         int fault;
+        private Laws draft = new Laws();
+        private final int[] numbers = new int[Laws.NUMBERS];
+        /** The law that is being read, and how many of its numbers have been taken. */
+        private int law;
+        private int taken;
 
         int readTape() {
-            fault = 0;
             draft.clear();
             tape.rewind();
-            boolean more = true;
-            // Each law takes bytes of its own, so there are fewer of them than bytes.
-            for (int law = 0; law <= Tape.LIMIT && more; law++) {
-                more = readLaw();
+            law = NO_LAW;
+            fault = 0;
+            boolean atEnd = false;
+            // Each token but the end takes bytes of its own.
+            for (int turn = 0; turn <= Tape.LIMIT && !atEnd && fault == 0; turn++) {
+                int kind = tape.readToken();
+                fault = take(kind);
+                atEnd = kind == Tape.AT_END;
             }
             tape.length = 0;
-            // Every fault is found at the token that was read last.
             return fault == 0 ? tellDraft() : BY_FAULT - tape.start;
         }
 
@@ -905,102 +929,55 @@ public final class TramPence {
             return told.howMany();
         }
 
-        /** Whether another law may follow: neither the end nor a fault was met. */
-        private boolean readLaw() {
-            switch (takeToken()) {
-                case Tape.AT_END:
-                    return false;
-                case Tape.FARE:
-                    takeFare();
-                    break;
-                case Tape.WORK:
-                    takeWork();
-                    break;
-                case Tape.CHANGE:
-                    takeChange();
-                    break;
-                default:
-                    blame(MISPLACED);
-            }
-            takeSemicolon();
-            return fault == 0;
-        }
-
-        private void takeFare() {
-            if (draft.fares >= Laws.FARES) {
-                blame(TOO_MANY);
-            }
-            int sections = takeNumberAbove(draft.latestSections(), 9);
-            int pence = takeNumberAbove(draft.latestPence(), 999);
-            if (fault == 0) {
-                draft.addFare(sections, pence);
-            }
-        }
-
-        private void takeWork() {
-            if (draft.works >= Laws.WORKS) {
-                blame(TOO_MANY);
-            }
-            int from = takeNumber(0, 23);
-            int to = takeNumber(from + 1, 24);
-            int share = takeNumber(0, 100);
-            if (fault == 0) {
-                draft.addWork(from, to, share);
-            }
-        }
-
-        private void takeChange() {
-            if (draft.hasChange()) {
-                blame(TOO_MANY);
-            }
-            int minutes = takeNumber(0, 120);
-            if (fault == 0) {
-                draft.setChange(minutes);
-            }
-        }
-
-        private int takeNumberAbove(int former, int most) {
-            int number = takeNumber(1, most);
-            if (number <= former) {
-                blame(NOT_ABOVE);
-            }
-            return number;
-        }
-
-        /** After a fault nothing more is read, and the answer is of no account. */
-        private int takeNumber(int least, int most) {
-            if (fault != 0) {
-                return 0;
-            }
-            if (takeToken() != Tape.NUMBER) {
-                blame(MISPLACED);
-                return 0;
-            }
-            if (isOutside(tape.value, least, most)) {
-                blame(OUT_OF_BOUNDS);
-            }
-            return tape.value;
-        }
-
-        private void takeSemicolon() {
-            if (fault == 0 && takeToken() != Tape.SEMICOLON) {
-                blame(MISPLACED);
-            }
-        }
-
-        private int takeToken() {
-            int kind = tape.readToken();
+        /** The fault of the token that was read last; 0 if it has none. */
+        private int take(int kind) {
             if (kind == Tape.NO_TOKEN) {
-                blame(UNREADABLE);
+                return UNREADABLE;
             }
-            return kind;
+            if (law == NO_LAW) {
+                return beginLaw(kind);
+            }
+            if (taken >= HAS[law]) {
+                return endLaw(kind);
+            }
+            return kind == Tape.NUMBER ? takeNumber(tape.value) : MISPLACED;
         }
 
-        /** The first fault met stays. */
-        private void blame(int found) {
-            if (fault == 0) {
-                fault = found;
+        private int beginLaw(int kind) {
+            if (kind == Tape.AT_END) {
+                return 0;
             }
+            if (kind != Tape.NAME) {
+                return MISPLACED;
+            }
+            law = tape.value;
+            taken = 0;
+            return draft.hasRoomFor(law) ? 0 : TOO_MANY;
+        }
+
+        private int takeNumber(int number) {
+            int at = law * Laws.NUMBERS + taken;
+            if (isOutside(number, LEAST_OF[at], MOST_OF[at])) {
+                return OUT_OF_BOUNDS;
+            }
+            if (law == Laws.WORK && taken == 1 && number <= numbers[0]) {
+                return OUT_OF_BOUNDS;
+            }
+            if (law == Laws.FARE && number <= draft.latestFare(taken)) {
+                return NOT_ABOVE;
+            }
+            numbers[taken] = number;
+            taken++;
+            return 0;
+        }
+
+        private int endLaw(int kind) {
+            if (kind != Tape.SEMICOLON) {
+                return MISPLACED;
+            }
+            draft.add(law, numbers[0], numbers[1], numbers[2]);
+            law = NO_LAW;
+            return 0;
         }
     }
 

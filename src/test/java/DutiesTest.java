@@ -37,6 +37,13 @@ final class DutiesTest {
         Check.due("full", x.duty(0, 1), -3);
         Check.due("full, bad", x.duty(1, 1), -1);
         Check.due("duties", x.count(4), 10);
+        Check.due("crews", x.crews(0), 9);
+        Check.due("crew of the last minute", x.crew(1), 1);
+        Check.due("the most minutes", x.crews(1), 1440);
+        Check.due("of crew 0", x.crews(2), 0);
+        Check.due("ill(0)", x.ill(0), 1);
+        Check.due("ill(1): the last minute could be had by others", x.ill(1), 1);
+        Check.due("ill(8)", x.ill(8), 1);
     }
 
     private static void rest() {
@@ -82,6 +89,10 @@ final class DutiesTest {
         Check.due("none", x.crews(0), 0);
         Check.due("none has minutes", x.crews(1), 0);
         Check.due("none", x.crews(2), -4);
+        x.duty(0, 1);
+        Check.due("one minute", x.crews(1), 1);
+        Check.due("of 0", x.crews(2), 0);
+        x = new TramPence();
         x.duty(0, 50);
         x.duty(10, 60);
         Check.due("two", x.crews(0), 2);
@@ -125,7 +136,7 @@ final class DutiesTest {
         }
         Check.due("each alone could be had, but the first", x.ill(0), 1);
         x.duty(170, 171);
-        Check.due("ahead: rest too short", x.crew(4), 0);
+        Check.due("between its duties, with 20 ahead of the third", x.crew(4), 0);
         restAheadAndBehind(6, 80, 2);
         restAheadAndBehind(6, 79, 3);
         restAheadAndBehind(10, 80, 2);

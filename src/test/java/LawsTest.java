@@ -9,6 +9,7 @@ final class LawsTest {
         laws();
         tokens();
         noToken();
+        cutOff();
         canNotStandThere();
         outOfBounds();
         notAbove();
@@ -165,12 +166,42 @@ final class LawsTest {
         fails("fare 1 12345;", 7, 1);
         fails("  12345", 2, 1);
         fails("change 1 99999999999999999999;", 9, 1);
+        fails("farez 1 1;", 0, 1);
+        fails("fare 1 1; bare 2 2;", 10, 1);
+        fails("pork 1 2 3;", 0, 1);
+        fails("xhange 1;", 0, 1);
         fails("`", 0, 1);
         fails("{", 0, 1);
         fails("/", 0, 1);
         fails("fare 1 1<", 8, 1);
         fails("change 1\u00e9;", 8, 1);
         fails("change 1\u0000;", 8, 1);
+    }
+
+    /** Bytes that the tape keeps no more are not read. */
+    private static void cutOff() {
+        TramPence x = new TramPence();
+        write(x, "fares 12");
+        x.end(4);
+        Check.due("laws of 'fare'", x.laws(), -14);
+        Check.due("fault of 'fare'", x.fault(), 2);
+        write(x, "change 123456");
+        x.end(8);
+        Check.due("laws of 'change 1'", x.laws(), -18);
+        Check.due("fault of 'change 1'", x.fault(), 2);
+        write(x, "change 1; x");
+        x.end(10);
+        Check.due("laws of 'change 1; '", x.laws(), 1);
+        StringBuilder s = new StringBuilder("change 1;");
+        while (s.length() < 200) {
+            s.append(' ');
+        }
+        tells(x, s.toString(), 1);
+        s.setLength(196);
+        fails(s + "fare", 200, 2);
+        fails(s + "   1", 199, 2);
+        fails(s + "   ;", 199, 2);
+        fails(s + "   x", 199, 1);
     }
 
     private static void canNotStandThere() {

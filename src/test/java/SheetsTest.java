@@ -7,6 +7,7 @@ final class SheetsTest {
         lay();
         lowestBits();
         scan();
+        scanNumberNought();
         scanFaults();
         scanRefusals();
         scanFull();
@@ -121,6 +122,20 @@ final class SheetsTest {
         Check.due("32 sales", x.scan(0, 1, 2, 0, 32), 32);
         Check.due("in order, undone one by one", x.undo(), 34);
         Check.due("next", x.pack(0, 0, 0), 131);
+    }
+
+    /** An answer of 0 is a number that was sold, and no refusal. */
+    private static void scanNumberNought() {
+        TramPence x = withSheet(0, 4, 0, 4);
+        x.issue(0, 0, 0, 2);
+        Check.due("numbers 0 and 1", x.scan(0, 0, 1, 0, 2), 2);
+        Check.due("both are sold", x.count(2), 2);
+        x.issue(0, 0, 40, 2);
+        x.sheet(3, 0, 4);
+        x.lay(3, 1, 4);
+        x.lay(3, 3, 4);
+        Check.due("of sheet 3", x.scan(0, 3, 0, 0, 2), 2);
+        Check.due("four are sold", x.waybill(0, 0, 0), 4);
     }
 
     private static void scanFaults() {

@@ -149,6 +149,7 @@ final class TicketsTest {
         }
         Check.due("open and full", x.trip(5, true), -2);
         Check.due("full", x.trip(1, true), -3);
+        Check.due("open ones", x.count(3), 2);
         Check.due("bad and full", x.trip(6, true), -1);
         Check.due("trips", x.count(1), 16);
     }
@@ -181,6 +182,7 @@ final class TicketsTest {
         }
         Check.due("at the last stage", x.sell(0, 0, 9), -2);
         Check.due("at stage 3", x.sell(0, 0, 3), 0);
+        Check.due("behind the only one", x.sell(0, 0, 2), -2);
         Check.due("at stage 3 again", x.sell(0, 0, 3), 1);
         Check.due("behind", x.sell(0, 0, 2), -2);
         Check.due("far behind", x.sell(0, 0, 0), -2);

@@ -102,6 +102,10 @@ final class WaybillsTest {
         Check.due("both closed again", x.paid(0, 0), -10);
         Check.due("the other one", x.paid(1, 3), 0);
         Check.due("none", x.paid(5, 8), 8);
+        for (int t = 3; t < 16; t++) {
+            x.close(x.trip(3, true));
+        }
+        Check.due("after 16 trips", x.paid(0, 0), -10);
     }
 
     private static void aboard() {
