@@ -15,6 +15,7 @@ final class EdgesOfDutiesTest {
         countBounds();
         countTickets();
         countOthers();
+        lastCall();
         Check.finish();
     }
 
@@ -108,6 +109,8 @@ final class EdgesOfDutiesTest {
                 "! crews MIN = -1", "! crews MAX = -1");
         Script.holds("Promise 29: no DUTY: 0 CREWS, 0 minutes, NONE has them", "! crews 0 = 0",
                 "! crews 1 = 0", "! crews 2 = -4", "! crews 3 = -1");
+        Script.holds("Promise 29: no DUTY, whatever the REST", "rest 5 = 30", "! crews 0 = 0",
+                "! crews 1 = 0", "! crews 2 = -4", "! ill 0 = -1", "! crew 0 = -1");
         Script.holds("Promise 29: one DUTY: of 1 minute, of all", "duty 0 1", "crews 0 = 1",
                 "crews 1 = 1", "crews 2 = 0", "duty 0 1440", "crews 0 = 2", "crews 1 = 1440",
                 "crews 2 = 1");
@@ -147,6 +150,12 @@ final class EdgesOfDutiesTest {
                 "crew 0 = 0", "crew 1 = 0", "crew 2 = 1", "ill 0 = 1");
         Script.holds("Promise 30: with REST behind: 29", "duty 0 20 | duty 50 100 | duty 49 60",
                 "crew 0 = 0", "crew 2 = 1", "crew 1 = 0", "ill 0 = 2", "ill 1 = 1");
+        Script.holds("Promise 30: with more than REST behind",
+                "duty 0 20 | duty 50 100 | duty 60 70", "crew 1 = 0", "crew 2 = 1", "ill 0 = 1",
+                "ill 1 = 1");
+        Script.holds("Promise 30: with more than REST ahead",
+                "duty 0 100 | duty 50 60 | duty 200 300", "crew 1 = 1", "crew 2 = 0", "ill 0 = 1",
+                "ill 1 = 1");
         Script.holds("Promise 30: with REST 0 ahead and behind",
                 "rest 0 | duty 0 10 | duty 5 20 | duty 20 30 | duty 30 40 | duty 29 35",
                 "crew 0 = 0", "crew 1 = 1", "crew 2 = 0", "crew 4 = 1", "crew 3 = 0",
@@ -163,6 +172,9 @@ final class EdgesOfDutiesTest {
         Script.holds("Promise 30: any other one: the last CREW alone could",
                 "rest 0 | duty 0 100 | duty 10 200 | duty 20 30 | duty 100 150", "crew 2 = 2",
                 "crew 3 = 0", "ill 0 = 1", "ill 1 = 1", "ill 2 = 1");
+        Script.holds("Promise 30: of 10 DUTIES",
+                "rest 0 | duty 0 100 | duty 0 50 | duty 100 200 | 7 x duty 0 10", "crew 2 = 0",
+                "crews 0 = 9", "ill 0 = 1", "ill 1 = 1", "ill 8 = 1", "ill 9 = -1");
         Script.holds("Promise 30: as they are told: the DUTIES of the ill CREW stay its own",
                 "rest 0 | duty 0 10 | duty 0 10 | duty 10 20 | duty 10 20", "crew 2 = 0",
                 "crew 3 = 1", "ill 0 = 2", "ill 1 = 2");
@@ -200,5 +212,12 @@ final class EdgesOfDutiesTest {
         Script.holds("Promise 31: 7 bytes on THE TAPE: 0 to 200", "count 7 = 0", "feed 0",
                 "count 7 = 8", "end 1", "count 7 = 1", "24 x feed 0", "count 7 = 193", "end 192",
                 "feed 0", "count 7 = 200", "laws = -10", "count 7 = 0");
+    }
+
+    private static void lastCall() {
+        Script.holds("What it is: an object is used for at most 512 calls: up to the 512th",
+                "type 1 1 | issue 0 0 7 1 | trip 0 up" + " | sell 0 0 4 = 7 | undo = 0".repeat(254),
+                "pack 0 0 1 = 1");
+        Script.holds("What it is: refused up to the 512th call", "type 1 1 | 511 x trip 6 up = -1");
     }
 }

@@ -152,7 +152,8 @@ final class EdgesOfLawsTest {
                 "^farework 1 1;", "^changes 1;", "^works 1 2 3;");
         faulty("Terms 2: a FAULT 1: a NAME that is none of these", 1, "^far 1 1;", "^wor 1 2 3;",
                 "^chang 1;", "^f", "^w", "^c", "^fore 1 1;", "^walk 1 2 3;", "^charge 1;",
-                "^farf 1 1;", "^worl 1 2 3;", "^changf 1;", "change 1; ^law 1;");
+                "^farf 1 1;", "^worl 1 2 3;", "^changf 1;", "^bare 1 1;", "^pork 1 2 3;",
+                "^range 1;", "^dhange 1;", "change 1; ^law 1;");
         good("Terms 2: a NAME ends at a figure", 1, "change3;", "change 0 3 = 1",
                 "change 0 4 = 0");
         faulty("Terms 2: a NAME ends at a ;", 2, "change^;", "fare^;");

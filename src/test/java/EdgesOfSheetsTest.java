@@ -59,8 +59,9 @@ final class EdgesOfSheetsTest {
                 "scan 0 0 2 0 2 = 2", "waybill 0 0 0 = 2", "waybill 0 1 0 = 0",
                 "shown 0 0 0 1 = 0");
         Script.holds("Promise 9: all 64 CELLS of a new row are 0", ON_TRIP,
-                "sheet 0 2 64 | lay 0 62 1 | lay 0 63 8", "sheet 0 2 64 = 1", "scan 0 0 2 62 1 = 1",
-                "waybill 0 0 0 = 1", "shown 0 0 0 0 = 0");
+                "sheet 0 2 64 | lay 0 62 1 | lay 0 63 8 | lay 0 0 1 | lay 0 1 8", "sheet 0 2 64 = 1",
+                "scan 0 0 2 62 1 = 1", "waybill 0 0 0 = 1", "shown 0 0 0 0 = 0",
+                "scan 0 0 2 0 1 = 1", "waybill 0 0 0 = 2", "shown 0 0 0 1 = 0");
         Script.holds("Promise 9: a longer new row after a shorter one is of 0, too", ON_TRIP,
                 "sheet 0 2 4 | lay 0 3 5 | sheet 0 2 2 | sheet 0 2 4", "scan 0 0 2 2 1 = 1",
                 "shown 0 0 0 0 = 0");

@@ -320,10 +320,26 @@ final class EdgesOfWaybillsTest {
                 "gap 0 = -4");
         Script.holds("Promise 19: far behind: NUMBER 100999 sold",
                 "type 1 1 | issue 0 0 100000 1000 | issue 1 0 0 1 | trip 0 up", "sell 0 0 0",
-                "gap 0 = 1", "issue 1 0 1 1000", "gap 0 = 0");
+                "gap 0 = 1", "issue 1 0 1 1000", "gap 0 = 0", "issue 1 0 0 1000",
+                "issue 2 0 1000 1000 | issue 3 0 2000 1000 | issue 4 0 3000 1000", "gap 0 = 4000",
+                "issue 5 0 4000 1000", "gap 0 = 5000");
+        Script.holds("Promise 19: 200 sold in falling order, five PACKS behind them",
+                "type 1 1 | trip 0 up | issue 0 0 300 1 | sell 0 0 0", soldFalling(198),
+                "gap 0 = 199", "issue 1 0 199 1 | issue 2 0 200 1 | issue 3 0 201 1", "gap 0 = 202",
+                "issue 4 0 202 1 | issue 5 0 203 1", "gap 0 = 204", "issue 0 0 204 96",
+                "gap 0 = -4");
         Script.holds("Promise 19: of that TYPE alone",
                 "type 1 1 | type 1 1 | issue 0 0 5 1 | issue 0 1 0 5 | trip 0 up", "sell 0 0 0",
-                "gap 1 = -4", "gap 0 = 0", "sell 0 1 0", "gap 1 = -4", "gap 0 = 0");
+                "gap 1 = -4", "gap 0 = 0", "sell 0 1 0", "gap 1 = -4", "gap 0 = 0",
+                "issue 0 1 3 2 = 4", "gap 1 = -4", "sell 0 1 0", "gap 1 = 1", "gap 0 = 0");
+    }
+
+    private static String soldFalling(int from) {
+        StringBuilder s = new StringBuilder("count 2 = 1");
+        for (int number = from; number >= 0; number--) {
+            s.append(" | issue 0 0 ").append(number).append(" 1 | sell 0 0 0 = ").append(number);
+        }
+        return s.toString();
     }
 
     private static void gapPacks() {

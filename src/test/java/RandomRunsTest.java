@@ -1,8 +1,10 @@
 /** Long runs of calls, always the same ones, answered by TramPence as by the plain model. */
 final class RandomRunsTest {
-    private static final int RUNS = 400, CALLS = 512;
+    /** No object is used for more than 512 calls; a step takes fewer than 65. */
+    private static final int RUNS = 1200, CALLS = 512 - 65;
 
     private long seed;
+    private int calls;
     private final TramPence x = new TramPence();
     private final PlainModel y = new PlainModel();
     private final boolean wild;
@@ -38,15 +40,20 @@ final class RandomRunsTest {
     }
 
     private void due(int run, String call, int... gotAndWant) {
+        calls++;
         Check.due("run " + run + ": " + call, gotAndWant[0], gotAndWant[1]);
     }
 
     private void go(int run) {
         for (int i = 0; i < 2 && topic != 3; i++) {
-            x.type(3 + i, 2 + 5 * i);
-            y.type(3 + i, 2 + 5 * i);
+            due(run, "type", x.type(3 + i, 2 + 5 * i), y.type(3 + i, 2 + 5 * i));
         }
-        for (int call = 0; call < CALLS; call++) {
+        if (run % 12 == 0) {
+            sellMany(run);
+        } else if (topic < 2) {
+            setOut(run);
+        }
+        while (calls < CALLS) {
             int kind = below(100);
             if (topic == 3 ? kind < 40 : kind < 4) {
                 roster(run);
@@ -62,8 +69,42 @@ final class RandomRunsTest {
         }
     }
 
+    private void setOut(int run) {
+        for (int c = 0; c < 4; c++) {
+            int type = c % 2;
+            int from = 15 * c;
+            boolean up = below(2) == 0;
+            due(run, "issue", x.issue(c, type, from, 9), y.issue(c, type, from, 9));
+            due(run, "trip", x.trip(c, up), y.trip(c, up));
+        }
+    }
+
+    /** 200 sales, and more that are refused. */
+    private void sellMany(int run) {
+        for (int c = 0; c < 2; c++) {
+            due(run, "issue", x.issue(c, c, 20, 150), y.issue(c, c, 20, 150));
+            due(run, "trip", x.trip(c, c == 0), y.trip(c, c == 0));
+        }
+        for (int i = 0; i < 220; i++) {
+            int t = below(2);
+            int stage = t == 0 ? i / 40 : 9 - i / 40;
+            if (below(16) == 0) {
+                due(run, "undo()", x.undo(), y.undo());
+            } else {
+                due(run, "sell", x.sell(t, t, stage), y.sell(t, t, stage));
+            }
+        }
+        for (int i = 0; i < 30 && y.count(2) < 200; i++) {
+            due(run, "sell", x.sell(i % 2, i % 2, 4), y.sell(i % 2, i % 2, 4));
+        }
+    }
+
+    private int latestTrip() {
+        return Math.max(0, y.count(1) - 1);
+    }
+
     private void tickets(int run) {
-        int t = below(4) == 0 ? some(0, 15) : some(Math.max(0, x.count(1) - 4), Math.max(0, x.count(1) - 1));
+        int t = below(4) == 0 ? some(0, 15) : some(Math.max(0, latestTrip() - 3), latestTrip());
         int a = some(0, 4) % 3;
         int kind = below(100);
         if (kind < 3) {
@@ -80,9 +121,9 @@ final class RandomRunsTest {
             int c = some(0, 5);
             boolean up = below(2) == 0;
             due(run, "trip(" + c + ", " + up + ")", x.trip(c, up), y.trip(c, up));
-        } else if (kind < 32) {
+        } else if (kind < 34) {
             due(run, "close(" + t + ")", x.close(t), y.close(t));
-        } else if (kind < 40) {
+        } else if (kind < 42) {
             due(run, "undo()", x.undo(), y.undo());
         } else {
             int s = below(3) == 0 ? some(0, 9) : some(3, 6);
@@ -102,7 +143,7 @@ final class RandomRunsTest {
             int v = (i % 2 == 0 ? some(0, 1) : some(4, 6)) + 256 * below(2);
             due(run, "lay(" + k + ", " + i + ", " + v + ")", x.lay(k, i, v), y.lay(k, i, v));
         } else {
-            int t = some(0, Math.max(0, x.count(1) - 1));
+            int t = some(0, latestTrip());
             int f = below(3) == 0 ? some(0, 63) : 2 * below(10);
             int n = below(3) == 0 ? some(0, 32) : some(0, 3);
             due(run, "scan(" + t + ", " + k + ", " + lane + ", " + f + ", " + n + ")",
@@ -111,7 +152,7 @@ final class RandomRunsTest {
     }
 
     private void queries(int run) {
-        int t = some(0, Math.max(0, x.count(1) - 1));
+        int t = some(0, latestTrip());
         int a = some(0, 4) % 3;
         int section = some(0, 8);
         int what = some(0, 1);
@@ -145,12 +186,15 @@ final class RandomRunsTest {
                 }
                 due(run, "feed(" + v + ")", x.feed(v), y.feed(v));
             }
+            for (int i = below(20) == 0 ? 26 : 0; i > 0; i--) {
+                due(run, "feed", x.feed(0x2020202020202020L), y.feed(0x2020202020202020L));
+            }
             due(run, "laws() of '" + text + "'", x.laws(), y.laws());
             due(run, "fault() of '" + text + "'", x.fault(), y.fault());
         } else if (below(8) == 0) {
             long v = (long) some(0, 9) << below(40) ^ 0x2020202020202020L;
             due(run, "feed(" + v + ")", x.feed(v), y.feed(v));
-            int n = some(0, x.count(7));
+            int n = some(0, y.count(7));
             due(run, "end(" + n + ")", x.end(n), y.end(n));
         }
         int n = some(1, 9);
@@ -194,12 +238,12 @@ final class RandomRunsTest {
     }
 
     private void roster(int run) {
-        int kind = below(6);
-        if (kind == 0) {
+        int kind = below(8);
+        if (kind < 3) {
             int from = some(0, 1440);
             int to = below(2) == 0 ? some(0, 1440) : from + 1 + below(200);
             due(run, "duty(" + from + ", " + to + ")", x.duty(from, to), y.duty(from, to));
-        } else if (kind == 1) {
+        } else if (kind == 3) {
             int minutes = below(2) == 0 ? some(0, 600) : some(0, 40);
             due(run, "rest(" + minutes + ")", x.rest(minutes), y.rest(minutes));
         }
