@@ -20,7 +20,10 @@ final class Reading {
     Reading(String from, String end) throws IOException {
         document = plain(Files.readString(DOCUMENT, StandardCharsets.UTF_8));
         this.end = plain(end);
-        place = Math.max(0, document.indexOf(plain(from)));
+        place = document.indexOf(plain(from));
+        if (place < 0) {
+            throw new IllegalStateException(DOCUMENT + " has no \"" + from + "\"");
+        }
     }
 
     /** Line breaks and blanks side by side mean no more than one blank. */
@@ -37,13 +40,10 @@ final class Reading {
     /** Words that promise nothing of their own. */
     void passes(String words) {
         String due = plain(words);
-        boolean there = document.startsWith(due, place);
-        int shown = Math.min(document.length(), place + due.length() + 20);
-        Check.holds("the document goes on with \"" + due + "\", not \""
-                + document.substring(place, shown) + "\"", there);
-        if (!there) {
-            finish();
-            throw new IllegalStateException("the document reads otherwise");
+        if (!document.startsWith(due, place)) {
+            int shown = Math.min(document.length(), place + due.length() + 20);
+            throw new IllegalStateException(DOCUMENT + " does not go on with \"" + due
+                    + "\", but with \"" + document.substring(place, shown) + "\"");
         }
         place += due.length();
         while (place < document.length() && document.charAt(place) == ' ') {

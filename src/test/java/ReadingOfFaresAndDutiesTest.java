@@ -103,7 +103,8 @@ final class ReadingOfFaresAndDutiesTest {
     private static void rest() {
         reading.head("## Promise 27: rest");
         reading.says("`int rest(int minutes)`: REST: what it was.", "rest 600 = 30", "rest 0 = 600",
-                "rest 12 = 0", "duty 0 10 | duty 21 30 | duty 22 30", "crew 1 = 1", "crew 2 = 0");
+                "rest 12 = 0", "duty 0 10 | duty 21 30 | duty 22 30", "crew 1 = 1", "crew 2 = 0",
+                "rest 11 = 12", "crew 1 = 0", "crew 2 = 1");
         reading.says("BAD.", "! rest -1 = -1", "! rest 601 = -1", "rest 30 = 30");
     }
 

@@ -293,7 +293,8 @@ final class ReadingOfPromisesTest {
                 "riders down 4 0 = 1", "riders down 4 1 = 1", "riders down 3 0 = 0",
                 "riders down 3 1 = 1", "riders down 5 1 = 0", "close 2", "riders up 4 1 = 3");
         reading.says("BAD.", "! riders up 9 0 = -1", "! riders down -1 0 = -1",
-                "! riders up 0 2 = -1", "! riders down 0 -1 = -1", "riders up 8 1 = 0");
+                "! riders up 0 2 = -1", "! riders down 0 -1 = -1", "riders up 0 0 = 0",
+                "riders up 8 1 = 0");
     }
 
     private static void shown() {
@@ -342,6 +343,8 @@ final class ReadingOfPromisesTest {
         reading.says("and is in no PACK", "type 1 1 | issue 0 0 3 1 | issue 1 0 0 2 | trip 0 up",
                 "sell 0 0 0 = 3", "gap 0 = 2", "issue 2 0 2 1", "gap 0 = -4", "issue 1 0 1 1",
                 "gap 0 = 0");
+        reading.also("type 1 1 | issue 5 0 3 1 | trip 5 up", "sell 0 0 0 = 3", "issue 0 0 0 3",
+                "gap 0 = -4", "issue 0 0 1 2", "gap 0 = 0");
         reading.says("(0 is the least that can be);", "type 1 1 | issue 0 0 1 1 | trip 0 up",
                 "sell 0 0 0 = 1", "gap 0 = 0", "issue 1 0 0 1", "gap 0 = -4");
         reading.says("NONE.", "type 1 1", "gap 0 = -4", "issue 0 0 0 1 | trip 0 up",

@@ -323,7 +323,9 @@ final class ReadingOfTermsTest {
         reading.says("but between two NUMBERS side by side):", "tape 'work 0 1 2;'", "laws = 1",
                 "tape 'work 0 12;'", "laws = -19", "fault = 2");
         reading.says("NAMES (a .. z),", "tape 'fare 1 1;'", "laws = 1", "tape 'Fare 1 1;'",
-                "laws = -10", "fault = 1", "tape 'fare_ 1 1;'", "laws = -14", "fault = 1");
+                "laws = -10", "fault = 1", "tape 'xare 1 1;'", "laws = -10", "tape 'farez 1 1;'",
+                "laws = -10", "tape 'farea 1 1;'", "laws = -10", "tape 'fare_ 1 1;'", "laws = -14",
+                "fault = 1", "tape 'fare` 1 1;'", "laws = -14", "tape 'fare{ 1 1;'", "laws = -14");
         reading.says("NUMBERS (1 to 4 figures),", "tape 'fare 9 1;'", "laws = 1", "fare 9 0 = 1",
                 "tape 'fare 0009 0002;'", "laws = 1", "fare 9 0 = 2", "tape 'fare 00009 1;'",
                 "laws = -15", "fault = 1");
